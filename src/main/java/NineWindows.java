@@ -54,7 +54,8 @@ public final class NineWindows {
             case 7:
                 forecast.beginFromNow();
                 return forecast.harmOf(window, scene.minute, scene.minute + 1);
-            default: return NONE;
+            default:
+                return NONE;
         }
     }
 
@@ -131,6 +132,7 @@ public final class NineWindows {
     public int pass(int n) {
         if (!within(n, 0, MOST_GO)) return BAD;
         if (scene.minute + n > MOST_MINUTE) return STATE;
+        forecast.beginFromNow();
         return go(n);
     }
 
@@ -139,6 +141,7 @@ public final class NineWindows {
         Pane pane = scene.panes[window];
         int minutes = pane.minutesFrom(scene.floor, scene.room, scene.holding.stair);
         if (pane.isShut || scene.minute + minutes > MOST_MINUTE) return STATE;
+        forecast.beginFromNow();
         go(minutes);
         pane.isShut = true;
         scene.floor = pane.floor;
@@ -148,6 +151,7 @@ public final class NineWindows {
 
     public int on(int n) {
         if (!within(n, 0, MOST_GO)) return BAD;
+        forecast.beginFromNow();
         return wetMore(n);
     }
 
@@ -425,9 +429,8 @@ public final class NineWindows {
         return within(tape, 0, TAPES - 1);
     }
 
-    /** WET is 999999 at most, so it may become more by less than all HARM together. */
+    /** By the forecast. WET is 999999 at most, so it may become more by less than all HARM together. */
     private int wetMore(int minutes) {
-        forecast.beginFromNow();
         int more = forecast.harmOfAll(scene.minute, scene.minute + minutes);
         return Math.min(more, MOST_WET - scene.wet);
     }
@@ -834,11 +837,11 @@ public final class NineWindows {
             return true;
         }
 
+        /** Which of these signs it was; -1: none of them. */
         private int readOneOf(String signs) {
-            for (int i = 0; i < signs.length(); i++) {
-                if (readSign(signs.charAt(i))) return i;
-            }
-            return -1;
+            int place = sign == END ? -1 : signs.indexOf((char) sign);
+            if (place >= 0) goOn();
+            return place;
         }
 
         /** One digit or two; -1: there is none. */
