@@ -69,6 +69,18 @@ public final class HouseTest {
         fault(nine + "last 7;", 69);
         fault(nine + "last 7;last 1", 69);
         fault(nine, 63);
+        StringBuilder ten = new StringBuilder("wet 1 w=0");
+        for (int i = 1; i < 10; i++) ten.append(";wet 1 w=0");
+        NineWindows x = new NineWindows();
+        x.window(0, 0, 0, 0, 1);
+        x.storm(0, 0);
+        Check.due("9: ten", Check.house(x, ten.toString()), 0);
+        Check.due("9: all ten count", x.of(0, 7), 13);
+        for (int i = 0; i < 4; i++) Check.due("9: ten and more", Check.house(x, ten + ";"), -109);
+        Check.due("9: of a fault nothing is left", Check.house(x, "wet 2 w=0;dry 1 w=1"), 1);
+        Check.due("9: so", x.of(0, 7), 5);
+        Check.due("9: ten again", Check.house(x, ten.toString()), 2);
+        Check.due("9: all ten count again", x.of(0, 7), 13);
     }
 
     private static void sixHouses() {

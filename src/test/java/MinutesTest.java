@@ -29,6 +29,33 @@ public final class MinutesTest {
         Check.due("13: asked on", x.on(99), 0);
     }
 
+    private static void shutInTheLastMinute() {
+        NineWindows x = new NineWindows();
+        x.window(0, 0, 0, 1, 1);
+        x.window(0, 0, 0, 0, 2);
+        for (int i = 0; i < 100; i++) x.pass(99);
+        x.pass(97);
+        Check.due("12: 9997", x.told(0), 9997);
+        Check.due("12: to 9999", x.shut(0), 2);
+        Check.due("12: 9999", x.told(0), 9999);
+        Check.due("12: not beyond", x.shut(1), -3);
+    }
+
+    /** A storm of 99 minutes: each of them counts once. */
+    private static void theLongestStorm() {
+        NineWindows x = new NineWindows();
+        x.window(0, 0, 0, 0, 1);
+        Check.house(x, "wet 1 t<97;wet 10 t=97;wet 20 t=98;last 99");
+        x.storm(0, 0);
+        Check.due("13: 97", x.on(97), 97 * 4);
+        Check.due("13: 98", x.on(98), 97 * 4 + 13);
+        Check.due("13: 99", x.on(99), 97 * 4 + 13 + 23);
+        x.pass(98);
+        Check.due("13: the last", x.on(99), 23);
+        Check.due("11: the last", x.pass(1), 23);
+        Check.due("11: over", x.pass(1), 0);
+    }
+
     /** 2 * 798 * 7 a minute, for 99 minutes: WET would be 1106028. */
     private static void theMostWet() {
         NineWindows x = new NineWindows();
@@ -100,6 +127,8 @@ public final class MinutesTest {
     public static void main(String[] args) {
         pass();
         passToTheLastMinute();
+        shutInTheLastMinute();
+        theLongestStorm();
         theMostWet();
         shut();
         shutInTheStorm();

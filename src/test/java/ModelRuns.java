@@ -255,7 +255,11 @@ public final class ModelRuns {
         while (calls < CALLS - 12) {
             int chance = r.nextInt(100);
             if (chance < 4) feedText();
-            else if (chance < 40) change();
+            else if (chance < 40) {
+                change();
+                int what = r.nextInt(9);
+                due("told " + what, x.told(what), m.told(what));
+            }
             else if (chance < 50) tellByHand();
             else if (chance < 80) askAll();
             else if (chance < 88) act();

@@ -44,6 +44,11 @@ public final class TapesTest {
         x.window(0, 0, 0, 0, 1);
         x.row(0, 0, 6);
         x.put(0, true);
+        x.pass(5);
+        x.put(0, false);
+        x.pass(1);
+        Check.due("32: it is wetter now", x.told(1) > before[1] ? 1 : 0, 1);
+        x.put(0, true);
         x.storm(60, 3);
         x.pass(50);
         x.stand(0, 0);
