@@ -77,6 +77,9 @@ public final class HouseTest {
         Check.due("9: ten", Check.house(x, ten.toString()), 0);
         Check.due("9: all ten count", x.of(0, 7), 13);
         for (int i = 0; i < 4; i++) Check.due("9: ten and more", Check.house(x, ten + ";"), -109);
+        StringBuilder many = new StringBuilder("wet 1 w=0");
+        for (int i = 0; i < 22; i++) many.append("|w=1");
+        for (int i = 0; i < 4; i++) Check.due("9: a long one", Check.house(x, many + "|"), -10 - 98);
         Check.due("9: of a fault nothing is left", Check.house(x, "wet 2 w=0;dry 1 w=1"), 1);
         Check.due("9: so", x.of(0, 7), 5);
         Check.due("9: ten again", Check.house(x, ten.toString()), 2);
