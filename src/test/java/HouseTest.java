@@ -80,8 +80,8 @@ public final class HouseTest {
         StringBuilder many = new StringBuilder("wet 1 w=0");
         for (int i = 0; i < 22; i++) many.append("|w=1");
         for (int i = 0; i < 4; i++) Check.due("9: a long one", Check.house(x, many + "|"), -10 - 98);
-        Check.due("9: of a fault nothing is left", Check.house(x, "wet 2 w=0;dry 1 w=1"), 1);
-        Check.due("9: so", x.of(0, 7), 5);
+        Check.due("9: of a fault nothing is left", Check.house(x, "wet 2 w=1;dry 1 w=0"), 1);
+        Check.due("9: so", x.of(0, 7), 2);
         Check.due("9: ten again", Check.house(x, ten.toString()), 2);
         Check.due("9: all ten count again", x.of(0, 7), 13);
     }
