@@ -211,6 +211,24 @@ public final class AskedEdgesTest {
         }
     }
 
+    /** What has been asked of seven leaves nothing behind that another call, asked of five or three, would find. */
+    private static void bestBehindLeave() {
+        for (int turn = 0; turn < 7; turn++) {
+            for (int open = 5; open >= 3; open -= 2) {
+                NineWindows x = rainsByRank(new int[] {4, 3, 2, 1, 0});
+                for (int w = 5; w < 7; w++) x.window(0, 0, 0, 0, 1);
+                for (int w = open; w < 7; w++) x.put(w, true);
+                for (int i = 0; i < 7; i++) x.add((i + turn) % 7);
+                x.leave();
+                for (int k = 0; k < open; k++) Check.due("best " + k + " of " + open, x.best(k), open - 1 - k);
+                Check.due("best, no more", x.best(open), open < 5 ? -5 : -1);
+                x.leave();
+                Check.due("next", x.next(), open - 1);
+                Check.due("best, the last", x.best(open - 1), 0);
+            }
+        }
+    }
+
     /** "(5 OPEN WINDOWS at most, else -9)"; "(-5: there are fewer)"; "NONE: k (-1 .. 4)". */
     private static void bestEdges() {
         NineWindows x = new NineWindows();
@@ -561,6 +579,7 @@ public final class AskedEdgesTest {
         aboveTheMostWet();
         inTime();
         bestOfFive();
+        bestBehindLeave();
         bestEdges();
         ofSeveralTheFirst();
         late();

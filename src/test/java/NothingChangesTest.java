@@ -259,6 +259,7 @@ public final class NothingChangesTest {
         t.tapes();
         t.asked();
         t.nothingComes();
+        new NothingChangesTest("of seven", Rich::ofSeven).asked();
         full();
         late();
         noAct();

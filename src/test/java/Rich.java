@@ -58,6 +58,15 @@ final class Rich {
         return x;
     }
 
+    /** Seven of THE ROUND, and five OPEN, so that there is a BEST. */
+    static NineWindows ofSeven() {
+        NineWindows x = withRoom();
+        x.window(2, 9, 3, 4, 9);
+        x.put(1, true);
+        for (int w = 6; w >= 0; w--) x.add(w);
+        return x;
+    }
+
     /** With no room for a MINUTE. */
     static NineWindows late() {
         NineWindows x = withRoom();

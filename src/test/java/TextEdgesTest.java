@@ -219,6 +219,11 @@ public final class TextEdgesTest {
         fault("wat 1 w=1", 1);
         fault("last 1;wet 1", 12);
         fault("\u0000", 0);
+        fault("last 1\u0000", 6);
+        fault("wet 1 w=1\u0000", 9);
+        fault("wet 1 (w=1)\u0000;", 11);
+        fault("last 1;\u0000", 7);
+        fault("last \u0000", 5);
         fault("last 1\u007f", 6);
         fault("last 1\n", 6);
     }
